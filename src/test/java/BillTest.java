@@ -85,7 +85,16 @@ public final class BillTest {
         LetMe v = Check.at("person a;person b guest;person c;couple a c;dish 50 by a;dish 9 by b;dish 1;");
         CHECK.given(v, "18 couples", v.unfair(2), 9 + 9);
         CHECK.given(v, "18 eaten", v.unfair(1), 9 + 9);
-        CHECK.given(new LetMe(), "19 nobody", new LetMe().fairest(), 0);
+        LetMe w = Check.at("person a;person b;person c guest;couple a b;dish 60 by a;dish 1 by b;dish 30 by c;");
+        CHECK.given(w, "18 heads", w.unfair(0), 14 + 44 + 30);
+        CHECK.given(w, "18 eaten", w.unfair(1), 60);
+        CHECK.given(w, "18 couples", w.unfair(2), 31 + 1 + 30);
+        LetMe u = Check.at("person a;person b;person c guest;couple a b;dish 60 by a;dish 31 by c;dish 1;");
+        CHECK.given(u, "18 couples", u.unfair(2), 31 + 31);
+        LetMe t = Check.at("person a;person b;couple a b;dish 60 by a;");
+        CHECK.given(t, "19 not the later one of two", t.fairest(), 1);
+        LetMe nobody = new LetMe();
+        CHECK.given(nobody, "19 nobody", nobody.fairest(), 0);
     }
 
     private static void dearer() {
@@ -115,6 +124,8 @@ public final class BillTest {
         CHECK.refused(nobody, "21 1 ahead of 6", nobody.hardest(3), 1);
         LetMe y = Check.at("person a;person b;");
         CHECK.given(y, "21 no bill: the first", y.hardest(1), 0);
+        LetMe one = Check.at("person a;");
+        CHECK.given(one, "21 alone", one.hardest(2), 0);
     }
 
     private static void ordering() {

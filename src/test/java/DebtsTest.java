@@ -15,6 +15,7 @@ public final class DebtsTest {
         ties();
         extreme();
         simplify();
+        simplifyTheMost();
         simplifyAtRandom();
         chain();
         even();
@@ -153,6 +154,9 @@ public final class DebtsTest {
         LetMe nobody = new LetMe();
         CHECK.refused(nobody, "44 nobody", nobody.extreme(1), 6);
         CHECK.refused(nobody, "44 1 ahead of 6", nobody.extreme(2), 1);
+        LetMe one = Check.at("person a;");
+        CHECK.given(one, "44 alone", one.extreme(0), 0);
+        CHECK.given(one, "44 alone", one.extreme(1), 0);
         LetMe guests = Check.at("person a;person b guest;owes a b 3;");
         CHECK.given(guests, "44 a guest, too", guests.extreme(1), 1);
     }
@@ -177,6 +181,21 @@ public final class DebtsTest {
         CHECK.given(y, "45 nothing changed", y.owes(1, 0), 599_940);
         CHECK.given(y, "45 nothing changed", y.owes(2, 0), 0);
         CHECK.given(y, "45 nothing changed", y.ties(), 4);
+    }
+
+    private static void simplifyTheMost() {
+        LetMe x = Check.at("person a;person b;person c;");
+        for (int i = 0; i < 100; i++) {
+            x.lend(0, 1, 9_999);
+        }
+        x.lend(0, 1, 98);
+        x.lend(2, 1, 1);
+        x.lend(0, 2, 1);
+        CHECK.given(x, "45 just 999,999", x.simplify(), 1);
+        CHECK.given(x, "45 just 999,999", x.owes(1, 0), 999_999);
+        x.lend(2, 1, 1);
+        x.lend(0, 2, 1);
+        CHECK.refused(x, "45 1,000,000", x.simplify(), 7);
     }
 
     private static void simplifyAtRandom() {
@@ -257,8 +276,12 @@ public final class DebtsTest {
         CHECK.refused(g, "48 not by 99, a guest", g.evenBy(3, 1), 6);
         g.lend(1, 0, 4);
         CHECK.refused(g, "47 owing a guest", g.even(4), 6);
+        LetMe ninetyNine = Check.at("person a;person b;owes b a 99;");
+        CHECK.given(ninetyNine, "47 n 99", ninetyNine.even(99), 1);
         LetMe one = Check.at("person a;");
         CHECK.given(one, "47 alone", one.even(5), 0);
+        CHECK.given(one, "47 alone, n 1", one.even(1), 0);
+        CHECK.given(one, "48 alone, n 1", one.evenBy(1, 0), 0);
         CHECK.given(one, "48 alone", one.evenBy(5, 0), 0);
         LetMe host = Check.at("person a;person g guest;owes g a 5;");
         CHECK.refused(host, "47 alone with a guest that owes", host.even(5), 6);

@@ -61,6 +61,12 @@ public final class PayersTest {
         y.gift(0, 1, 9_999);
         CHECK.refused(y, "28 too much of the last alone", y.pay(0), 7);
         CHECK.given(y, "28 the first was not charged", y.owes(1, 0), 187 * 5328 - 9_999);
+        LetMe z = Check.at("person a;person b;person c;dish 999;");
+        for (int i = 0; i < 100; i++) {
+            z.lend(2, 0, 9_999);
+        }
+        CHECK.refused(z, "28 too much of the first alone", z.pay(2), 7);
+        CHECK.given(z, "28 the second was not charged", z.owes(1, 2), 0);
     }
 
     private static void turn() {
@@ -222,6 +228,7 @@ public final class PayersTest {
         CHECK.fraction(x, "34 of all", x.reach(15, 0), 1, 5);
         CHECK.fraction(x, "34 of two", x.reach(5, 2), 2, 5);
         CHECK.fraction(x, "34 alone", x.reach(8, 3), 1, 1);
+        CHECK.fraction(x, "34 the first alone", x.reach(1, 0), 1, 1);
         CHECK.fraction(x, "34 of 0", x.reach(3, 1), 0, 1);
         CHECK.denied(x, "34 all quick are 0", x.reach(2, 1), 6);
         CHECK.denied(x, "34 not of it", x.reach(5, 1), 1);

@@ -44,6 +44,9 @@ public final class ReceiptsTest {
         LetMe guests = laid("person a guest;person b guest;", 2, 1);
         CHECK.given(guests, "58 all are guests", guests.receipts(0, 1, 5, 1), 2);
         row(guests, "58 all are guests", 1, -5, 5);
+        x.tray(2, 1, 4);
+        CHECK.given(x, "58 just as many places", x.receipts(0, 3, 10, 2), 4);
+        row(x, "58 just as many places", 2, 30, -30, 0, 0);
         LetMe own = laid("person a;person b;", 2, 1, 1, 0);
         CHECK.given(own, "58 to its own", own.receipts(0, 3, 5, 0), 2);
         row(own, "58 to its own", 0, -5, 5, 0);
@@ -81,6 +84,8 @@ public final class ReceiptsTest {
         x.write(1, 1, 42);
         x.write(1, 2, -12);
         CHECK.refused(x, "59 nobody is off", x.remembers(1), 6);
+        x.write(1, 1, 41);
+        CHECK.given(x, "59 one is off by 1", x.remembers(1), 1);
         x.write(1, 1, 40);
         CHECK.given(x, "59 one is off", x.remembers(1), 1);
         x.write(1, 2, -15);

@@ -73,6 +73,19 @@ public final class TextsTest {
         CHECK.given(x, "10 no drinks", x.drinks(0), 0);
         CHECK.refused(x, "10 no year", x.live(0), 6);
         CHECK.refused(x, "10 no couple", x.person(0, 4), 6);
+        LetMe used = Check.at("person a guest;person b;person c;dish 9;", "dinner by a;dinner by b;round;gift a to b 1;");
+        used.comes(2, 0);
+        used.mean(0, 0, 3);
+        CHECK.given(used, "10 behind a mean", Check.table(used, "person a;person b;"), 2);
+        for (int what = 7; what <= 10; what++) {
+            CHECK.given(used, "10 behind a mean told(" + what + ")", used.told(what), 0);
+        }
+        CHECK.given(used, "10 behind a mean, in", used.told(11), 3);
+        for (int i = 0; i < 2; i++) {
+            CHECK.given(used, "10 behind a mean, paid", used.person(i, 5), 0);
+            CHECK.given(used, "10 behind a mean, drinks", used.drinks(i), 0);
+            CHECK.given(used, "10 behind a mean, owes", used.owes(i, 1 - i), 0);
+        }
         LetMe y = Check.at("person\nx\n\n insists08quick0020minds 099means0guest;split   couples ; law owing;");
         CHECK.given(y, "10 no blanks needed", y.person(0, 0), 8);
         CHECK.given(y, "10 leading 0s", y.person(0, 1), 20);

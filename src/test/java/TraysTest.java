@@ -66,8 +66,10 @@ public final class TraysTest {
         CHECK.refused(x, "5 one behind", x.read(3, 60), 3);
         x.write(3, 59, 7);
         x.write(3, 2, 7);
+        x.write(3, 0, 7);
         CHECK.granted(x, "5 laid anew", x.tray(3, 0, 3));
         CHECK.given(x, "5 all 0 again", x.read(3, 2), 0);
+        CHECK.given(x, "5 all 0 again", x.read(3, 0), 0);
         CHECK.refused(x, "5 shorter now", x.read(3, 3), 3);
         x.tray(3, 0, 60);
         CHECK.given(x, "5 0 at the end too", x.read(3, 59), 0);

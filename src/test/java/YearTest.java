@@ -15,6 +15,7 @@ public final class YearTest {
         loops();
         theThreeHundred();
         livedStays();
+        livedAnew();
         mean();
         atRandom();
         CHECK.finish();
@@ -203,6 +204,18 @@ public final class YearTest {
         Check.table(x, "person z;");
         x.live(1);
         livedIs(x, "61 whatever came behind it", 0, 1, 0, 1, 0);
+    }
+
+    private static void livedAnew() {
+        LetMe x = Check.at("person a quick 0;person b quick 0;", "loop 99;dinner;dinner by a;duel a with b;round;end;");
+        x.live(3);
+        livedIs(x, "61 the first", 75, 150, 75, 74, 1);
+        Check.year(x, "dinner by a;");
+        x.live(3);
+        livedIs(x, "61 anew", 0, 1, 0, 0, 0);
+        Check.year(x, "round;");
+        x.live(3);
+        livedIs(x, "61 anew", 0, 0, 0, 1, 0);
     }
 
     private static void mean() {
