@@ -637,7 +637,7 @@ public final class LetMe {
         if (!trays.areWithin(tray, dinners, 0, people - 1)) {
             return refuse(WRONG_IN_TRAY);
         }
-        // all is reckoned ahead of the first put: both may be the same TRAY
+        // all is reckoned, in the row of dues, ahead of the first put: both may be the same TRAY
         Arrays.fill(dues, 0);
         for (int i = 0; i < dinners; i++) {
             addReceipt((int) trays.get(tray, i), n);
