@@ -243,6 +243,7 @@ public final class DebtsTest {
         CHECK.refused(x, "46 nobody", x.chain(-1), 1);
         LetMe y = Check.at(SIX + "owes a b 1;owes b c 1;owes c d 1;owes d e 1;owes e f 1;");
         CHECK.given(y, "46 upward", y.chain(0), 62);
+        CHECK.given(y, "46 not the first", y.chain(4), 32);
         y.gift(3, 2, 1);
         CHECK.given(y, "46 broken", y.chain(0), 6);
     }

@@ -98,6 +98,10 @@ public final class ReceiptsTest {
         CHECK.given(x, "59 the least number", x.remembers(1), 2);
         x.write(1, 3, 10_000_000);
         CHECK.given(x, "59 behind the people is free", x.remembers(1), 2);
+        x.write(1, 0, -30);
+        x.write(1, 1, 42);
+        x.write(1, 2, -12);
+        CHECK.refused(x, "59 behind the people nobody is off", x.remembers(1), 6);
     }
 
     private static void rememberRefusals() {

@@ -16,6 +16,7 @@ public final class YearTest {
         theThreeHundred();
         livedStays();
         livedAnew();
+        livedFromALoop();
         mean();
         atRandom();
         CHECK.finish();
@@ -216,6 +217,21 @@ public final class YearTest {
         Check.year(x, "round;");
         x.live(3);
         livedIs(x, "61 anew", 0, 0, 0, 1, 0);
+    }
+
+    private static void livedFromALoop() {
+        LetMe x = Check.at(TWO, "loop 5;round;loop 5;when paid a<3;dinner by a;stop;end;end;end;");
+        int[] steps = {6, 6, 6, 1 + 5 * (1 + 1 + 5)};
+        for (int i = 0; i < steps.length; i++) {
+            CHECK.given(x, "60 behind a stop in a loop", x.live(0), steps[i]);
+        }
+        LetMe cut = Check.at(TWO, "round;loop 99;loop 99;round;end;end;");
+        for (int i = 0; i < 3; i++) {
+            CHECK.given(cut, "60 behind a cut in a loop", cut.live(0), 300);
+            CHECK.given(cut, "61 behind a cut in a loop", cut.lived(3), 296);
+        }
+        Check.year(cut, "round;");
+        CHECK.given(cut, "60 another year", cut.live(0), 1);
     }
 
     private static void mean() {
