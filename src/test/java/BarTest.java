@@ -101,23 +101,30 @@ public final class BarTest {
         return x.evenRounds();
     }
 
-    /** What evenRounds() must have told: rounds are had until those who are in are even. */
+    /** What evenRounds() must tell: rounds are had, on paper, until those who are in are even. */
     private static int walked(LetMe x) {
+        int people = x.told(0);
+        int in = x.told(11);
+        int[] ahead = new int[people];
+        for (int i = 0; i < people; i++) {
+            ahead[i] = x.drinks(i);
+        }
         for (int rounds = 0; rounds <= 60; rounds++) {
+            int buyer = -1;
             boolean isEven = true;
-            int seen = 0;
-            boolean hasSeen = false;
-            for (int i = 0; i < x.told(0); i++) {
-                if ((x.told(11) >> i & 1) == 1) {
-                    isEven &= !hasSeen || x.drinks(i) == seen;
-                    seen = x.drinks(i);
-                    hasSeen = true;
+            for (int i = 0; i < people; i++) {
+                if ((in >> i & 1) == 1) {
+                    isEven &= buyer < 0 || ahead[i] == ahead[buyer];
+                    buyer = buyer < 0 || ahead[i] > ahead[buyer] ? i : buyer;
                 }
             }
             if (isEven) {
                 return rounds;
             }
-            x.round();
+            for (int i = 0; i < people; i++) {
+                ahead[i] += in >> i & 1;
+            }
+            ahead[buyer] -= Integer.bitCount(in);
         }
         return LetMe.NONE;
     }

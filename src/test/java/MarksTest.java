@@ -24,39 +24,15 @@ public final class MarksTest {
         CHECK.refused(x, "64 none", x.back(), 6);
     }
 
-    private static void same(LetMe x, String call, int[] wants) {
-        int[] got = all(x);
-        for (int i = 0; i < wants.length; i++) {
-            CHECK.due("64 " + call + " at " + i, got[i], wants[i]);
-        }
-    }
-
-    private static int[] all(LetMe x) {
-        int[] row = new int[200];
-        int at = 0;
-        for (int what = 0; what <= 11; what++) {
-            row[at++] = x.told(what);
-        }
-        for (int i = 0; i < 6; i++) {
-            for (int what = 0; what < 6; what++) {
-                row[at++] = x.person(i, what);
-            }
-            for (int j = 0; j < 6; j++) {
-                row[at++] = x.owes(i, j);
-            }
-            row[at++] = x.drinks(i);
-        }
-        for (int i = 0; i < 16; i++) {
-            row[at++] = x.dish(i, 0);
-            row[at++] = x.dish(i, 1);
-        }
-        return row;
+    private static void same(LetMe x, String call, String want) {
+        String got = Still.table(x);
+        CHECK.due("64 " + call + ": " + got + " for " + want, got.equals(want), true);
     }
 
     private static void allIsTakenBack() {
         LetMe x = Check.at("person a insists 3 quick 4 minds 5 means 6;person b guest;person c;couple a c;dish 30 by a;"
             + "dish 7;split eaten;law owing;owes a b 9;", "loop 2;round;end;dinner by c;");
-        int[] first = all(x);
+        String first = Still.table(x);
         x.mark();
         x.pay(0);
         x.order(5, 1);
@@ -65,11 +41,11 @@ public final class MarksTest {
         x.comes(1, 0);
         x.round();
         x.gift(1, 0, 3);
-        int[] second = all(x);
+        String second = Still.table(x);
         x.mark();
         Check.table(x, "person d;person e;person f;person g;couple d e;dish 1;");
         Check.year(x, "stop;");
-        int[] third = all(x);
+        String third = Still.table(x);
         x.mark();
         x.live(3);
         x.strike();
