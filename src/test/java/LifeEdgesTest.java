@@ -409,6 +409,7 @@ public final class LifeEdgesTest {
         }
     }
 
+    /** "MISSED: nobody is there." */
     private static void nobodyIsThere() {
         LetMe x = new LetMe();
         Check.year(x, "dinner;round;dinner;loop 3;round;end;");
@@ -418,11 +419,20 @@ public final class LifeEdgesTest {
         CHECK.given(x, "13 none paid", x.told(7), 0);
     }
 
+    /** "MISSED: all QUICK are 0." */
     private static void allQuickAreZero() {
         LetMe x = Check.at("person a quick 0;person b quick 0;dish 9;", "dinner;dinner by b;");
         CHECK.given(x, "60 all quick are 0", x.live(0), 2);
         livedIs(x, "all quick are 0", 1, 1, 0, 0, 0);
         CHECK.given(x, "14 by name it is paid", x.person(1, 5), 1);
+        // by 0 there is no draw: the duel behind it has the first one
+        for (int seed = 0; seed < 40; seed++) {
+            LetMe y = Check.at("person a insists 8 quick 0;person b quick 0;", "dinner;duel a with b;");
+            y.live(seed);
+            boolean isSaid = next(seed) / 8 % 16 < 8;
+            CHECK.given(y, "60 who stays", y.person(isSaid ? 0 : 1, 5), 1);
+            livedIs(y, "all quick are 0, and a duel", 1, 1, isSaid ? 2 : 1, 0, 0);
+        }
         LetMe one = Check.at("person a quick 0;person b quick 1;", "loop 50;dinner;end;");
         one.live(0);
         CHECK.given(one, "14 the only quick one", one.person(1, 5), 50);
