@@ -15,6 +15,7 @@ public final class FactsEdgesTest {
         whatOfAPerson();
         noSuchPerson();
         couples();
+        couplesOfGuests();
         paidByOne();
         whatOfADish();
         noSuchDish();
@@ -154,6 +155,16 @@ public final class FactsEdgesTest {
                 CHECK.given(x, "14 the other one of " + i, x.person(i, 4), wants[i]);
             }
         }
+    }
+
+    /** A GUEST may be one of a COUPLE. */
+    private static void couplesOfGuests() {
+        LetMe x = Check.at("person a;person b guest;person c guest;person d guest;couple b a;couple c d;");
+        int[] wants = {1, 0, 3, 2};
+        for (int i = 0; i < 4; i++) {
+            CHECK.given(x, "14 the other one of " + i, x.person(i, 4), wants[i]);
+        }
+        CHECK.given(x, "13 couples", x.told(1), 2);
     }
 
     private static void paidByOne() {

@@ -527,6 +527,11 @@ public final class LifeEdgesTest {
         sure.live(1);
         CHECK.given(sure, "60 the first told gives way", sure.person(0, 5), 1);
         CHECK.given(sure, "61 twenty", sure.lived(2), 20);
+        Check.year(sure, "loop 3;duel a with b;end;duel b with a;");
+        sure.live(1);
+        CHECK.given(sure, "61 twenty of each", sure.lived(2), 80);
+        CHECK.given(sure, "60 the first told gives way", sure.person(0, 5), 2);
+        CHECK.given(sure, "60 the first told gives way", sure.person(1, 5), 3);
     }
 
     /** "From how all is now: what it comes to stays." */

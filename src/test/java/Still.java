@@ -1,3 +1,4 @@
+import java.util.ArrayList;
 import java.util.LinkedHashMap;
 import java.util.List;
 import java.util.Map;
@@ -57,7 +58,7 @@ final class Still {
 
     static LetMe richAndFed() {
         LetMe x = rich();
-        Check.feed(x, "person zoe;dish 3;  person a;person b");
+        Check.feed(x, "person zoe;dish 3;  person a;person b;  ");
         return x;
     }
 
@@ -85,6 +86,26 @@ final class Still {
         LetMe x = made.get();
         check.fraction(x, call, asked.test(x), top, bottom);
         same(call, with(y -> asked.test(y) ? 1 : 0), List.of(FRACTION));
+    }
+
+    /** A call that changes some parts, told by how their names begin, and no others. */
+    void changes(String call, ToLongFunction<LetMe> asked, String... parts) {
+        LetMe x = made.get();
+        asked.applyAsLong(x);
+        check.due(call + " then status()", x.status(), 0);
+        List<String> free = new ArrayList<>();
+        Map<String, String> now = picture(with(asked));
+        for (String part : parts) {
+            boolean isAny = false;
+            for (String each : before.keySet()) {
+                if (each.startsWith(part)) {
+                    free.add(each);
+                    isAny |= !before.get(each).equals(now.get(each));
+                }
+            }
+            check.due(call + " changes " + part, isAny, true);
+        }
+        same(call, now, free);
     }
 
     /** A call that tells by a FRACTION that is looked at elsewhere. */
@@ -123,7 +144,10 @@ final class Still {
     }
 
     private void same(String call, Supplier<LetMe> touched, List<String> free) {
-        Map<String, String> now = picture(touched);
+        same(call, picture(touched), free);
+    }
+
+    private void same(String call, Map<String, String> now, List<String> free) {
         for (String part : before.keySet()) {
             if (free.contains(part)) {
                 continue;
@@ -139,7 +163,7 @@ final class Still {
         all.put(FRACTION, x.top() + " by " + x.bottom());
         all.put(FAULT, x.fault(0) + " at " + x.fault(1));
         all.put(TAPE, tape(made));
-        all.put("TABLE", table(x));
+        facts(all, x);
         all.put("lived", lived(x));
         all.put("names", names(made.get()));
         all.put("YEAR", year(made.get()));
@@ -160,6 +184,39 @@ final class Still {
             all.append('/').append(x.status());
         }
         all.append(' ');
+    }
+
+    /** As table(), part by part. */
+    private static void facts(Map<String, String> all, LetMe x) {
+        for (int what = 0; what <= 11; what++) {
+            all.put("told " + what, "" + x.told(what));
+        }
+        StringBuilder traits = new StringBuilder();
+        StringBuilder paid = new StringBuilder();
+        StringBuilder drinks = new StringBuilder();
+        StringBuilder owes = new StringBuilder();
+        int people = x.told(0);
+        for (int i = 0; i < people; i++) {
+            for (int what = 0; what <= 4; what++) {
+                tell(traits, x, x.person(i, what));
+            }
+            tell(paid, x, x.person(i, 5));
+            tell(drinks, x, x.drinks(i));
+            for (int j = 0; j < people; j++) {
+                owes.append(i == j ? 0 : x.owes(i, j)).append(' ');
+            }
+        }
+        all.put("traits", traits.toString());
+        all.put("paid", paid.toString());
+        all.put("drinks", drinks.toString());
+        all.put("owes", owes.toString());
+        StringBuilder dishes = new StringBuilder();
+        int many = x.told(2);
+        for (int i = 0; i < many; i++) {
+            tell(dishes, x, x.dish(i, 0));
+            tell(dishes, x, x.dish(i, 1));
+        }
+        all.put("dishes", dishes.toString());
     }
 
     static String table(LetMe x) {
@@ -206,9 +263,9 @@ final class Still {
 
     private static String taken(LetMe x, int n) {
         StringBuilder all = new StringBuilder();
-        tell(all, x, x.table(n));
-        all.append(x.fault(0)).append(" at ").append(x.fault(1)).append(' ').append(table(x)).append(names(x));
-        return all.toString();
+        boolean isTaken = x.table(n) != LetMe.NONE;
+        all.append(x.fault(0)).append(" at ").append(x.fault(1)).append(' ');
+        return isTaken ? all.append(table(x)).append(names(x)).toString() : all.toString();
     }
 
     private static String names(LetMe x) {

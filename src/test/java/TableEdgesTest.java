@@ -118,7 +118,7 @@ public final class TableEdgesTest {
             fed.refused("11 of 40 bytes " + n, x -> x.year(n), 1);
         }
         LetMe one = Still.richAndFed();
-        CHECK.fault(one, "10 all 40, the first behind the text is a 0", one.table(40), 1, 37);
+        CHECK.given(one, "10 all 40", one.table(40), 3);
         Still full = new Still(CHECK, TableEdgesTest::full);
         for (int n : new int[] {-1, 901, 920, MOST}) {
             full.refused("10 of 900 bytes " + n, x -> x.table(n), 1);
