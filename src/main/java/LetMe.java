@@ -1215,16 +1215,16 @@ public final class LetMe {
             for (int i = many - 1; i >= 0; i--) {
                 rests[i] = rests[i + 1] + prices[i];
             }
-            search(0, amount, 0);
+            search(this, 0, amount, 0);
         }
 
         /** One level a DISH; what the DISHES left can't come to is not looked at. */
-        private void search(int dish, int lacks, int set) {
+        private static void search(Bill bill, int dish, int lacks, int set) {
             if (lacks == 0) {
-                countSet(set);
-            } else if (dish < many && lacks > 0 && lacks <= rests[dish]) {
-                search(dish + 1, lacks - prices[dish], set | 1 << dish);
-                search(dish + 1, lacks, set);
+                bill.countSet(set);
+            } else if (dish < bill.many && lacks > 0 && lacks <= bill.rests[dish]) {
+                search(bill, dish + 1, lacks - bill.prices[dish], set | 1 << dish);
+                search(bill, dish + 1, lacks, set);
             }
         }
 

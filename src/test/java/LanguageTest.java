@@ -14,6 +14,7 @@ import java.util.regex.Pattern;
 /** The face of the document, and the rules of LANGUAGE.md that can be seen from outside. */
 public final class LanguageTest {
     private static final Check CHECK = new Check("LanguageTest");
+    private static int recursions;
 
     public static void main(String[] args) throws Exception {
         String source = Files.readString(Path.of("src/main/java/LetMe.java"));
@@ -124,8 +125,26 @@ public final class LanguageTest {
                 end++;
             }
             longest = Math.max(longest, end - i + 1);
+            callsItself(lines, i, end);
             CHECK.due("at most sixty lines: " + lines[i].trim(), end - i + 1 <= 60, true);
         }
         CHECK.due("methods were seen", longest > 20, true);
+        CHECK.due("one method calls itself", recursions, 1);
+    }
+
+    /** Rule 8: a method that calls itself is private and static. */
+    private static void callsItself(String[] lines, int begin, int end) {
+        Matcher name = Pattern.compile("(\\w+)\\(").matcher(lines[begin]);
+        if (!name.find()) {
+            return;
+        }
+        Pattern call = Pattern.compile("(?<![\\w.])(?<!new )" + name.group(1) + "\\(");
+        for (int i = begin + 1; i < end; i++) {
+            if (call.matcher(lines[i]).find()) {
+                recursions++;
+                CHECK.due("private and static, as it calls itself: " + lines[begin].trim(), lines[begin].contains("private static"), true);
+                return;
+            }
+        }
     }
 }
