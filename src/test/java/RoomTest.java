@@ -28,6 +28,16 @@ public final class RoomTest {
         calls.put("live", x -> x.live(9));
         calls.put("mean", x -> x.mean(0, 0, 20) ? 1 : 0);
         calls.put("marks", x -> x.mark() + x.back());
+        calls.put("what is told", x -> x.status() + x.top() + x.bottom() + x.fault(0) + x.told(10) + x.told(5) + x.person(0, 4) + x.dish(0, 1));
+        calls.put("numbers of a TRAY", x -> (x.write(0, 59, 7) ? 1 : 0) + x.read(0, 59));
+        calls.put("feed", x -> x.feed(1, 2, 3, 4, 5));
+        calls.put("DISHES", x -> x.strike() + x.order(1, 2) + x.eaten(0) + x.padded(9));
+        calls.put("SPLIT and LAW", x -> (x.split(1) ? 1 : 0) + (x.law(2) ? 1 : 0) + x.turn() + x.turnBy(1));
+        calls.put("who pays", x -> x.easyOn(0) + x.regret(1) + x.sorest());
+        calls.put("who OWES", x -> x.lend(0, 1, 5) + x.owes(1, 0) + x.balance(2) + x.quits(0, 1));
+        calls.put("who comes", x -> x.comes(1, 0) + x.comes(1, 1) + x.drinks(1));
+        calls.put("lived", x -> x.lived(2));
+        calls.put("refusals", x -> x.told(-1) + x.read(3, 0) + x.owes(0, 0) + x.comes(0, 1) + x.table(-1) + x.year(-1) + x.back());
         for (String name : calls.keySet()) {
             CHECK.due(name + " makes nothing", made(calls.get(name)), 0);
         }
